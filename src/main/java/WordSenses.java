@@ -211,7 +211,7 @@ public final class WordSenses {
     }
 
     private static boolean holds(long group, int use) {
-        return (group & bit(use)) != 0;
+        return (group >> use & 1L) != 0;
     }
 
     /** The uses that came, wherever they lie, and the weights that say how far they are. */
@@ -259,10 +259,13 @@ public final class WordSenses {
         }
 
         void weigh(int neighbour, int weight) {
+            int more = weight - weights[neighbour];
             weights[neighbour] = weight;
             for (int a = 0; a < came; a++) {
                 for (int b = 0; b < a; b++) {
-                    setBetween(a, b, apart(neighbours[a], neighbours[b]));
+                    if (((neighbours[a] ^ neighbours[b]) >> neighbour & 1) != 0) {
+                        setBetween(a, b, between(a, b) + more);
+                    }
                 }
             }
         }
@@ -561,15 +564,11 @@ public final class WordSenses {
 
         int makeSteps(int most) {
             int made = 0;
-            while (made < most && makeStep()) {
+            while (made < most && (layFirst() || moveFirst() || meltFirst())) {
                 made++;
             }
             stepsEver += made;
             return made;
-        }
-
-        private boolean makeStep() {
-            return layFirst() || moveFirst() || meltFirst();
         }
 
         private boolean layFirst() {
