@@ -535,7 +535,7 @@ public final class WordSenses {
                     next = Math.min(next, farTo[heap]);
                 }
             }
-            boolean alone = price < cheapest;
+            boolean alone = place == NONE || price < cheapest;
             next = alone ? cheapest : Math.min(next, price);
             cheapest = alone ? price : cheapest;
             if (next - cheapest < gap) {
