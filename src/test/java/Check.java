@@ -1,3 +1,5 @@
+import java.util.stream.IntStream;
+
 /** Counts the answers that are not the ones due. */
 final class Check {
     private static int wrong = 0;
@@ -39,6 +41,17 @@ final class Check {
             due("fix", senses.fix(use, heaps[use]), true);
         }
         return senses;
+    }
+
+    /** Ints on both sides of a range: its neighbours, those that wrap around into it, the least and the greatest. */
+    static int[] outside(int least, int most) {
+        int[] near = {least - 1, most + 1, least - 2, most + 2, ~least, ~most, -most};
+        int[] wraps = {32, 64, 256, 65536, 1 << 20, 1 << 24, 1 << 30, Integer.MIN_VALUE};
+        int[] far = {Integer.MIN_VALUE, Integer.MIN_VALUE + 1, Integer.MAX_VALUE - 1, Integer.MAX_VALUE};
+        IntStream wrapped = IntStream.of(wraps).flatMap(
+            by -> IntStream.of(least + by, most + by, least - by, most - by));
+        return IntStream.concat(IntStream.concat(IntStream.of(near), IntStream.of(far)), wrapped)
+            .filter(value -> value < least || value > most).distinct().toArray();
     }
 
     static void end() {

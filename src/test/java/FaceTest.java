@@ -22,7 +22,7 @@ public final class FaceTest {
     private static final String[] BARRED = {"throw", "throws", "try", "catch", "finally", "synchronized", "assert",
         "protected", "volatile", "native", "Random", "System.out", "System.nanoTime", "Thread", "Exact", "->", "::"};
 
-    public static void main(String[] args) throws IOException {
+    public static void main(String[] args) throws IOException, NoSuchFieldException {
         theClass();
         methods();
         members();
@@ -30,11 +30,13 @@ public final class FaceTest {
         Check.end();
     }
 
-    private static void theClass() {
+    private static void theClass() throws NoSuchFieldException {
         int modifiers = WordSenses.class.getModifiers();
         Check.due("public", Modifier.isPublic(modifiers), true);
         Check.due("final", Modifier.isFinal(modifiers), true);
         Check.due("NONE", WordSenses.NONE, -1);
+        Check.due("its kind", WordSenses.class.getDeclaredField("NONE").getModifiers(),
+            Modifier.PUBLIC | Modifier.STATIC | Modifier.FINAL);
         Constructor<?>[] constructors = WordSenses.class.getDeclaredConstructors();
         Check.due("constructors", constructors.length, 1);
         Check.due("a public one", Modifier.isPublic(constructors[0].getModifiers()), true);
@@ -63,20 +65,33 @@ public final class FaceTest {
             boolean open = !Modifier.isPrivate(field.getModifiers());
             Check.due("open field " + field.getName(), open, field.getName().equals("NONE"));
         }
+        noFaceNames(WordSenses.class);
         for (Class<?> inside : WordSenses.class.getDeclaredClasses()) {
             Check.due(inside.getName() + " is static", Modifier.isStatic(inside.getModifiers()), true);
-            for (Method method : inside.getDeclaredMethods()) {
-                for (String line : FACE) {
-                    boolean same = line.contains(" " + method.getName() + "(");
-                    Check.due(inside.getName() + " " + method.getName() + " bears a name of the face", same, false);
-                }
+            Check.due(inside.getName() + " is open", Modifier.isPublic(inside.getModifiers()), false);
+            noFaceNames(inside);
+        }
+    }
+
+    /** No private method bears the name of a public one. */
+    private static void noFaceNames(Class<?> type) {
+        for (Method method : type.getDeclaredMethods()) {
+            boolean same = false;
+            for (String line : FACE) {
+                same |= line.contains(" " + method.getName() + "(");
             }
+            Check.due(type.getName() + " " + method.getName() + " bears a name of the face",
+                same && Modifier.isPrivate(method.getModifiers()), false);
+            Check.due(type.getName() + " " + method.getName() + " has too many parameters",
+                method.getParameterCount() > 7, false);
         }
     }
 
     private static void words() throws IOException {
         String source = Files.readString(Path.of("src/main/java/WordSenses.java"), StandardCharsets.UTF_8);
         String code = source.replaceAll("(?s)/\\*.*?\\*/", " ").replaceAll("//[^\n]*", " ");
+        // the arrows of a switch are fine, those of a lambda aren't
+        code = code.replaceAll("\\b(case [^:;{}>]*|default\\s*)->", " ");
         for (String word : BARRED) {
             // a name may end in Exact, the other words stand by themselves
             String before = Character.isLowerCase(word.charAt(0)) ? "\\b" : "";
@@ -84,7 +99,8 @@ public final class FaceTest {
             boolean found = Pattern.compile(before + Pattern.quote(word) + after).matcher(code).find();
             Check.due("the code has " + word, found, false);
         }
-        Check.due("imports", code.split("\\bimport\\b", -1).length - 1, 1);
-        Check.due("only Arrays", code.contains("import java.util.Arrays;"), true);
+        String rest = code.replaceAll("import java\\.util\\.(Arrays|ArrayList|List|Iterator);", " ");
+        Check.due("another import", Pattern.compile("\\bimport\\b").matcher(rest).find(), false);
+        Check.due("a name with its package", Pattern.compile("\\bjavax?\\.").matcher(rest).find(), false);
     }
 }

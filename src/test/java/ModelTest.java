@@ -1,7 +1,8 @@
 /** Long runs of calls, each answered by WordSenses and by PlainModel alike; the runs are the same every time. */
 public final class ModelTest {
-    private static final int RUNS = 120;
-    private static final int CALLS = 512;
+    private static final int RUNS = 150;
+    // with the questions at the end an object gets at most 512
+    private static final int CALLS = 512 - 3 * 42;
 
     private final WordSenses senses = new WordSenses();
     private final PlainModel model = new PlainModel();
@@ -10,6 +11,9 @@ public final class ModelTest {
     // few kinds of neighbours make like costs frequent, few uses keep best() and wrong numbers frequent
     private final int kinds;
     private final int mostUses;
+    // some runs begin with nearly all uses and bonds that can be
+    private final int firstUses;
+    private final int firstBonds;
 
     private ModelTest(int run) {
         this.run = run;
@@ -17,6 +21,8 @@ public final class ModelTest {
         kinds = 2 + pick(19);
         int sort = pick(3);
         mostUses = sort == 0 ? 7 : sort == 1 ? 14 : 41;
+        firstUses = pick(2) == 0 ? mostUses - 2 : 0;
+        firstBonds = firstUses > 20 ? 70 : 0;
     }
 
     public static void main(String[] args) {
@@ -32,7 +38,7 @@ public final class ModelTest {
     }
 
     private int someUse() {
-        int came = senses.count(0);
+        int came = model.count(0);
         return pick(25) == 0 ? came + pick(3) : pick(40) == 0 ? -1 - pick(2) : came == 0 ? 0 : pick(came);
     }
 
@@ -53,13 +59,17 @@ public final class ModelTest {
 
     private void go() {
         for (int call = 0; call < CALLS; call++) {
-            if (pick(2) == 0) {
+            if (call < firstUses) {
+                newUse();
+            } else if (call < firstUses + firstBonds) {
+                newBond(someUse(), someUse());
+            } else if (pick(2) == 0) {
                 change();
             } else {
                 ask();
             }
         }
-        for (int use = -1; use <= senses.count(0); use++) {
+        for (int use = -1; use <= model.count(0); use++) {
             due("heap", use, senses.heap(use), model.heap(use));
             due("name", use, senses.name(use), model.name(use));
             due("matched", use, senses.matched(use), model.matched(use));
@@ -74,25 +84,29 @@ public final class ModelTest {
         due(call, argument, got ? 1 : 0, want ? 1 : 0);
     }
 
+    private void newUse() {
+        int neighbours = someNeighbours();
+        int year = 1799 + pick(202);
+        if (model.count(0) < mostUses) {
+            due("use", neighbours, senses.use(neighbours, year), model.use(neighbours, year));
+        }
+    }
+
+    private void newBond(int a, int b) {
+        boolean must = pick(2) == 0;
+        due("bond", a, senses.bond(a, b, must), model.bond(a, b, must));
+    }
+
     private void change() {
         int a = someUse();
         int b = someUse();
         switch (pick(9)) {
-            case 0, 1 -> {
-                int neighbours = someNeighbours();
-                int year = 1799 + pick(202);
-                if (senses.count(0) < mostUses) {
-                    due("use", neighbours, senses.use(neighbours, year), model.use(neighbours, year));
-                }
-            }
+            case 0, 1 -> newUse();
             case 2 -> {
                 int other = pick(4) == 0 ? -1 : pick(6) == 0 ? a : b;
                 due("fix", a, senses.fix(a, other), model.fix(a, other));
             }
-            case 3, 4 -> {
-                boolean must = pick(2) == 0;
-                due("bond", a, senses.bond(a, b, must), model.bond(a, b, must));
-            }
+            case 3, 4 -> newBond(a, b);
             case 5 -> due("free", a, senses.free(a, b), model.free(a, b));
             case 6 -> {
                 int n = pick(8) == 0 ? pick(104) - 1 : pick(4);
