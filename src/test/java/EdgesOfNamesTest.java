@@ -10,6 +10,7 @@ public final class EdgesOfNamesTest {
         allOfTheSet();
         atMostFew();
         openOnesArentInIt();
+        namesOfForty();
         fewestNeighbours();
         leastNumberOfOne();
         leastNumberOfTwo();
@@ -113,6 +114,30 @@ public final class EdgesOfNamesTest {
         Check.due("one open one", x.name(0), 1);
         x.marks(60, 0);
         Check.due("few 0", x.name(0), 0);
+    }
+
+    /** .. of forty: the last USES count like the first, in it and beside it. */
+    private static void namesOfForty() {
+        int[] sets = new int[40];
+        int[] heaps = new int[40];
+        for (int use = 0; use < 40; use++) {
+            sets[use] = use >= 30 && use < 34 || use == 39 ? 0b10 : 0;
+            heaps[use] = use < 30 ? 0 : 30;
+        }
+        WordSenses x = Check.laid(sets, heaps);
+        x.marks(0, 5);
+        Check.due("a set that no use has", x.name(30), 1);
+        x.marks(50, 0);
+        Check.due("5 of 10", x.name(30), 0b10);
+        x.marks(51, 0);
+        Check.due("5 of 10 are too few", x.name(30), 0);
+        x.fix(39, 0);
+        x.marks(44, 1);
+        Check.due("4 of 9, and the last use", x.name(30), 0b10);
+        x.marks(44, 0);
+        Check.due("the last use is too much", x.name(30), 0);
+        x.fix(39, NONE);
+        Check.due("also if it is open", x.name(30), 0);
     }
 
     /** That of the fewest NEIGHBOURS, however great its number. */
